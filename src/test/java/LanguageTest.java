@@ -1,0 +1,137 @@
+import java.io.IOException;
+import java.lang.reflect.Constructor;
+import java.lang.reflect.Field;
+import java.lang.reflect.Method;
+import java.lang.reflect.Modifier;
+import java.nio.charset.StandardCharsets;
+import java.nio.file.Files;
+import java.nio.file.Path;
+import java.util.Arrays;
+import java.util.TreeSet;
+import java.util.regex.Matcher;
+import java.util.regex.Pattern;
+
+/** What of ../shared/LANGUAGE.md can be seen without thought: the face, the words, the sizes. */
+public final class LanguageTest {
+  private static final Path SOURCE = Path.of("src/main/java/PotHandles.java");
+  private static final Path DOC = Path.of("../shared/DOC.md");
+
+  private static int wrong = 0;
+
+  private static void must(boolean good, String what) {
+    if (!good) {
+      wrong++;
+      System.out.println(what);
+    }
+  }
+
+  public static void main(String[] args) throws IOException {
+    TreeSet<String> face = face(PotHandles.class);
+    must(face.equals(faceOfDocument()), "rule 1: the face is " + face);
+    insides();
+    words(bare(Files.readString(SOURCE, StandardCharsets.UTF_8)));
+    System.out.println(wrong + " rules are not kept");
+    if (wrong != 0) {
+      System.exit(1);
+    }
+  }
+
+  private static TreeSet<String> face(Class<?> c) {
+    TreeSet<String> face = new TreeSet<>();
+    for (Method m : c.getDeclaredMethods()) {
+      if (!Modifier.isPrivate(m.getModifiers())) {
+        must(m.getReturnType() == int.class && m.getModifiers() == Modifier.PUBLIC, "rule 1: " + m);
+        face.add(m.getName() + Arrays.toString(m.getParameterTypes()).replace(" ", ""));
+      }
+    }
+    return face;
+  }
+
+  private static TreeSet<String> faceOfDocument() throws IOException {
+    TreeSet<String> face = new TreeSet<>();
+    Matcher m = Pattern.compile("public int (\\w+)\\(([^)]*)\\);").matcher(Files.readString(DOC));
+    while (m.find()) {
+      face.add(m.group(1) + "[" + m.group(2).replaceAll(" \\w+(,|$)", "$1").replace(" ", "") + "]");
+    }
+    return face;
+  }
+
+  private static void insides() {
+    Class<?> main = PotHandles.class;
+    must(main.getModifiers() == (Modifier.PUBLIC | Modifier.FINAL), "rule 1: public and final");
+    Constructor<?>[] made = main.getDeclaredConstructors();
+    must(made.length == 1 && made[0].getParameterCount() == 0, "rule 1: one constructor");
+    Class<?>[] inside = main.getDeclaredClasses();
+    must(inside.length < 12, "rule 11: classes " + inside.length);
+    TreeSet<String> names = new TreeSet<>();
+    for (Method m : main.getMethods()) {
+      names.add(m.getName());
+    }
+    fieldsOf(main, true);
+    for (Class<?> c : inside) {
+      must(Modifier.isStatic(c.getModifiers()) && !Modifier.isPublic(c.getModifiers()), "rule 2: " + c);
+      fieldsOf(c, false);
+      for (Method m : c.getDeclaredMethods()) {
+        must(!names.contains(m.getName()), "rule 1: the name of " + m);
+        must(m.getParameterCount() <= 7, "rule 11: " + m);
+      }
+    }
+  }
+
+  private static void fieldsOf(Class<?> c, boolean isMain) {
+    int own = 0;
+    for (Field f : c.getDeclaredFields()) {
+      boolean isStatic = Modifier.isStatic(f.getModifiers());
+      must(!isStatic || Modifier.isFinal(f.getModifiers()) && f.getType().isPrimitive(), "rule 5: " + f);
+      must(!isMain || Modifier.isPrivate(f.getModifiers()), "rule 1: " + f);
+      own += isStatic ? 0 : 1;
+    }
+    must(own <= 20, "rule 11: fields of " + c);
+  }
+
+  /** The source without comments and without what stands in quotes. */
+  private static String bare(String source) {
+    return source
+        .replaceAll("(?s)/\\*.*?\\*/", "")
+        .replaceAll("//[^\n]*", "")
+        .replaceAll("'(\\\\.|[^'\\\\])'", "' '")
+        .replaceAll("\"(\\\\.|[^\"\\\\])*\"", "\"\"");
+  }
+
+  private static void words(String bare) {
+    String[] refused = {
+      "\\bthrow\\b", "\\bthrows\\b", "\\btry\\b", "\\bcatch\\b", "\\bsynchronized\\b", "\\bassert\\b", "->", "::",
+      "\\bpackage\\b", "System\\.(?!arraycopy)", "Exact\\b", "\\bObject\\b",
+      "\\bMath\\.(?!max|min|abs|floorDiv|floorMod)", "\\bArrays\\.(?!fill|copyOf|copyOfRange)",
+      "\\b(hashCode|toString|equals)\\b", "\\bnull\\b", "\\bwhile\\b", "@"
+    };
+    for (String word : refused) {
+      must(!Pattern.compile(word).matcher(bare).find(), "rule 4 or 6: " + word);
+    }
+    Matcher imports = Pattern.compile("import ([^;]*);").matcher(bare);
+    while (imports.find()) {
+      must(imports.group(1).matches("java\\.util\\.(Arrays|ArrayList|List)"), "rule 4: " + imports.group());
+    }
+    // the room: nothing is made but with the object itself
+    for (String line : bare.split("\n")) {
+      boolean isKept = line.matches(".*\\bfinal\\b.* = new .*") || line.matches(" *(sheets|row)\\[\\w\\] = new \\w+\\(\\);");
+      must(!line.matches(".*\\bnew\\b.*") || isKept, "rule 12: " + line);
+    }
+    methodLengths(bare);
+  }
+
+  private static void methodLengths(String bare) {
+    String[] lines = bare.split("\n", -1);
+    for (int i = 0; i < lines.length; i++) {
+      Matcher m = Pattern.compile("^( +)[a-z].*\\) \\{$").matcher(lines[i]);
+      if (!m.find() || lines[i].matches(" *(if|for|switch|else).*")) {
+        continue;
+      }
+      int end = i;
+      while (end < lines.length && !lines[end].equals(m.group(1) + "}")) {
+        end++;
+      }
+      must(end - i < 60, "rule 11: long: " + lines[i]);
+    }
+  }
+}
