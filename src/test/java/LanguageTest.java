@@ -103,7 +103,7 @@ public final class LanguageTest {
       "\\bthrow\\b", "\\bthrows\\b", "\\btry\\b", "\\bcatch\\b", "\\bsynchronized\\b", "\\bassert\\b", "->", "::",
       "\\bpackage\\b", "System\\.(?!arraycopy)", "Exact\\b", "\\bObject\\b",
       "\\bMath\\.(?!max|min|abs|floorDiv|floorMod)", "\\bArrays\\.(?!fill|copyOf|copyOfRange)",
-      "\\b(hashCode|toString|equals)\\b", "\\bnull\\b", "\\bwhile\\b", "@"
+      "\\b(hashCode|toString|equals)\\b", "@"
     };
     for (String word : refused) {
       must(!Pattern.compile(word).matcher(bare).find(), "rule 4 or 6: " + word);

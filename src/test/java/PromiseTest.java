@@ -289,7 +289,7 @@ public final class PromiseTest {
       {"u<c", "0"}, {"c<u", "1"}, {"u>c", "1"}, {"u=9", "1"}, {"!u", "0"}, {"!(u-u)", "1"}, {"!u+5", "5"},
       {"u|0", "1"}, {"0|0", "0"}, {"u&c", "1"}, {"u&0", "0"}, {"0&0|7", "1"}, {"1|0&0", "1"}, {"u+1>c*2&h", "1"},
       {"(u=9)*50+(c=4)*40", "90"}, {"9999", "99"}, {"0099", "99"}, {"0-1", "0"}, {"2<1+2", "1"},
-      {"9999*9999*9999*9999%97+50", "51"}, {"!!u*7", "7"}
+      {"9999*9999*9999*9999%97+50", "51"}, {"!!u*7", "7"}, {"u<u", "0"}, {"u>u", "0"}, {"u=u", "1"}, {"(0|1)*7", "7"}
     };
     for (String[] c : cases) {
       due("13 " + c[0], withText(0, c[0]).law(0, 9, 4, 1), lawDue(c));
@@ -438,6 +438,19 @@ public final class PromiseTest {
     row("15 used of the third", x, 3, 5, 5, 1);
     row("15 the draw is ahead of the year", x, 4, 5, 5, 1);
     due("15 year", x.count(1), 1);
+    x.seed(5);
+    x.loose(1);
+    row("15 an eighth, cut", x, 3, 5, 5, 3);
+    PotHandles one = new PotHandles();
+    one.pot(0, 0, 5);
+    one.loose(1);
+    due("15 one pot", one.ofPot(0, 3), 1);
+    PotHandles old = new PotHandles();
+    for (int i = 0; i < 166; i++) {
+      old.years(60);
+    }
+    due("15 up to 9999", old.loose(39), 0);
+    due("15 year 9999", old.count(1), 9999);
     PotHandles y = new PotHandles();
     due("15 no pots", y.loose(1), 0);
     due("15 drawn all the same", y.count(9), 1103527590);
@@ -550,6 +563,8 @@ public final class PromiseTest {
     read(y, 0, "(u=0)*9");
     y.pot(0, 0, 5);
     due("20 with 0", y.use(1, 20), 0);
+    read(y, 0, "(u=9)*9");
+    due("20 with 9", y.use(1, 20), 9);
     read(y, 1, "9");
     y.years(1);
     due("19 broken", y.place(0, 0, 0), STATE);
@@ -577,6 +592,12 @@ public final class PromiseTest {
     due("21 too early", x.needed(7, 10), NONE);
     due("21 empty set", x.needed(0, 20), 0);
     due("21 only thought", x.ofHouse(1, 1), 1);
+    PotHandles w = withText(0, "(c=9)*9");
+    for (int h = 0; h < 5; h++) {
+      w.pot(0, h, 5);
+    }
+    due("21 house 0", w.needed(1, 20), 1);
+    due("21 every house", w.needed(31, 20), 31);
     due("21 beyond", x.needed(8, 0), BEYOND);
     due("21 beyond", x.needed(-1, 0), BEYOND);
     due("21 beyond", x.needed(MIN, 0), BEYOND);
@@ -598,6 +619,9 @@ public final class PromiseTest {
     y.put(0, 2, 24);
     due("22 none", y.whose(0, 0, 0), 0);
     due("22 none", y.whose(0, 0, 1), 0);
+    y.put(0, 2, 25);
+    y.put(0, 0, 8);
+    due("22 not the first", y.whose(0, 0, 0), 0);
     y.sheet(0, 8, 0);
     due("22 no numbers", y.whose(0, 0, 0), 31);
     due("22 only thought", y.ofPot(0, 2), 0);
@@ -641,6 +665,12 @@ public final class PromiseTest {
       due("23 two have one", x.carry(2), two[hands]);
     }
     due("23 empty", x.carry(0), 0);
+    PotHandles few = new PotHandles();
+    few.house(0, 0, 9);
+    few.pot(0, 0, 1);
+    few.pot(0, 0, 1);
+    few.stick(1);
+    due("23 hands to spare", few.carry(0), 2);
     due("23 beyond", x.carry(5), BEYOND);
     due("23 beyond", x.carry(-1), BEYOND);
 
@@ -836,6 +866,9 @@ public final class PromiseTest {
     due("33 another", x.move(0, 2, 1, 0, 2), 2);
     x.uses(1);
     row("33 another", x, 3, 3, 5, 0, 0, 0);
+    due("33 all", x.move(0, 0, 1, 0, 5), 5);
+    x.uses(1);
+    row("33 all", x, 3, 1, 2, 3, 5, 5);
     due("33 none at the end", x.move(0, 5, 1, 5, 0), 0);
     x.sheet(2, 16, 5);
     due("33 no such sheet", x.move(4, 0, 0, 0, 0), BEYOND);
