@@ -157,7 +157,7 @@ public final class PotHandles {
       return fail(BEYOND);
     }
     Pot it = now.row[pot];
-    if (it.home == NO_HOUSE || it.handles > 0) {
+    if (!it.canTakeFalseHandle()) {
       return fail(STATE);
     }
     it.takeFalseHandle();
@@ -693,7 +693,7 @@ public final class PotHandles {
 
   private int handlesIfStuck(int pot, int n) {
     District ahead = behind(0);
-    if (ahead.row[pot].handles == 0) {
+    if (ahead.row[pot].canTakeFalseHandle()) {
       ahead.row[pot].takeFalseHandle();
     }
     ahead.passYears(n);
@@ -914,6 +914,11 @@ public final class PotHandles {
         handles = 0;
         isFalse = false;
       }
+    }
+
+    /** Not on one that is broken, nor on one that has a HANDLE. */
+    boolean canTakeFalseHandle() {
+      return home != NO_HOUSE && handles == 0;
     }
 
     void takeFalseHandle() {

@@ -861,7 +861,7 @@ public final class OracleTest {
           int most = behind(a[0]).handles();
           for (P p : now.pots) {
             World w = now.copy();
-            if (p.handles == 0) {
+            if (p.handles == 0 && p.house >= 0) {
               w.pots.get(p.n).handles = 1;
               w.pots.get(p.n).fals = true;
             }

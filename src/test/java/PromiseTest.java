@@ -730,6 +730,22 @@ public final class PromiseTest {
     due("26 it has one", y.dealer(30), -1);
     due("26 beyond", y.dealer(31), BEYOND);
     due("26 beyond", y.dealer(-1), BEYOND);
+    dealerWithBroken();
+  }
+
+  private static void dealerWithBroken() {
+    PotHandles x = withText(1, "(y=0)*(u=1)*9");
+    x.pot(0, 0, 1);
+    due("26 one that breaks later can have one yet", x.dealer(30), 0);
+    x.years(1);
+    due("26 broken", x.count(5), 1);
+    due("26 none on one that is broken", x.dealer(0), -1);
+    due("26 none on one that is broken", x.dealer(30), -1);
+    x.pot(0, 1, 0);
+    due("26 the next one that isn't broken", x.dealer(0), 1);
+    due("26 the next one that isn't broken", x.dealer(30), 1);
+    x.stick(1);
+    due("26 broken, and has one", x.dealer(30), -1);
   }
 
   // ---- promise 27
