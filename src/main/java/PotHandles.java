@@ -263,7 +263,7 @@ public final class PotHandles {
     if (!now.has(pot)) {
       return fail(BEYOND);
     }
-    District ahead = behind(0);
+    District ahead = asNow();
     int had = now.row[pot].handles;
     for (int n = 1; n <= MOST_YEARS; n++) {
       ahead.passYears(1);
@@ -309,7 +309,7 @@ public final class PotHandles {
     }
     int had = now.row[pot].handles;
     for (int used = 0; used <= MOST_USED; used++) {
-      District ahead = behind(0);
+      District ahead = asNow();
       ahead.row[pot].used = used;
       ahead.passYears(n);
       if (ahead.row[pot].handles > had) {
@@ -561,7 +561,7 @@ public final class PotHandles {
   public int check() {
     int waits = desk.waits;
     desk.waits = 0;
-    District ahead = behind(0);
+    District ahead = asNow();
     for (int i = 0; i < waits; i++) {
       ahead.passYears(1);
       if (ahead.allHandles() != desk.waiting[i]) {
@@ -639,16 +639,22 @@ public final class PotHandles {
     return false;
   }
 
-  /** What is only thought: all as it stands behind n YEARS. It is good until the next thought. */
-  private District behind(int n) {
+  /** What is only thought, as all stands now, to be changed. It is good until the next thought. */
+  private District asNow() {
     thought.copy(now);
-    thought.passYears(n);
     return thought;
+  }
+
+  /** What is only thought, as all stands behind n YEARS. */
+  private District behind(int n) {
+    District ahead = asNow();
+    ahead.passYears(n);
+    return ahead;
   }
 
   /** A POT behind n YEARS, if it were MOVED to a HOUSE now. */
   private Pot whenMoved(int pot, int house, int n) {
-    District ahead = behind(0);
+    District ahead = asNow();
     Pot it = ahead.row[pot];
     if (it.home != house) {
       it.goTo(house);
@@ -659,14 +665,14 @@ public final class PotHandles {
 
   /** A POT behind n YEARS, if it had been in a HOUSE as long as it was in its own. */
   private Pot whenBeing(int pot, int house, int n) {
-    District ahead = behind(0);
+    District ahead = asNow();
     ahead.row[pot].home = house;
     ahead.passYears(n);
     return ahead.row[pot];
   }
 
   private boolean haveHandlesIfCaredFor(int pots, int houses, int n) {
-    District ahead = behind(0);
+    District ahead = asNow();
     for (int house = 0; house < HOUSES; house++) {
       if ((houses >> house & 1) != 0) {
         ahead.care[house] = MOST_CARE;
@@ -677,7 +683,7 @@ public final class PotHandles {
   }
 
   private boolean isLikedAsTold(Sheet sheet, int pot, int house) {
-    District ahead = behind(0);
+    District ahead = asNow();
     Pot it = ahead.row[pot];
     it.home = house;
     for (int i = 0; i < sheet.count; i++) {
@@ -692,7 +698,7 @@ public final class PotHandles {
   }
 
   private int handlesIfStuck(int pot, int n) {
-    District ahead = behind(0);
+    District ahead = asNow();
     if (ahead.row[pot].canTakeFalseHandle()) {
       ahead.row[pot].takeFalseHandle();
     }

@@ -6,7 +6,10 @@ import java.lang.reflect.Modifier;
 import java.nio.charset.StandardCharsets;
 import java.nio.file.Files;
 import java.nio.file.Path;
+import java.util.ArrayList;
 import java.util.Arrays;
+import java.util.List;
+import java.util.TreeMap;
 import java.util.TreeSet;
 import java.util.regex.Matcher;
 import java.util.regex.Pattern;
@@ -29,7 +32,12 @@ public final class LanguageTest {
     TreeSet<String> face = face(PotHandles.class);
     must(face.equals(faceOfDocument()), "rule 1: the face is " + face);
     insides();
-    words(bare(Files.readString(SOURCE, StandardCharsets.UTF_8)));
+    String source = Files.readString(SOURCE, StandardCharsets.UTF_8);
+    must(source.chars().allMatch(sign -> sign == '\n' || sign >= ' ' && sign < 127), "rule 3: signs 1 to 127");
+    String bare = bare(source);
+    words(bare);
+    loops(bare);
+    callsOpenAtOnce(bare);
     System.out.println(wrong + " rules are not kept");
     if (wrong != 0) {
       System.exit(1);
@@ -84,9 +92,15 @@ public final class LanguageTest {
       boolean isStatic = Modifier.isStatic(f.getModifiers());
       must(!isStatic || Modifier.isFinal(f.getModifiers()) && f.getType().isPrimitive(), "rule 5: " + f);
       must(!isMain || Modifier.isPrivate(f.getModifiers()), "rule 1: " + f);
+      must(isKnownType(f.getType()), "rule 3: " + f);
       own += isStatic ? 0 : 1;
     }
     must(own <= 20, "rule 11: fields of " + c);
+  }
+
+  private static boolean isKnownType(Class<?> type) {
+    Class<?> one = type.isArray() ? type.getComponentType() : type;
+    return one.isPrimitive() || one.getEnclosingClass() == PotHandles.class;
   }
 
   /** The source without comments and without what stands in quotes. */
@@ -103,7 +117,7 @@ public final class LanguageTest {
       "\\bthrow\\b", "\\bthrows\\b", "\\btry\\b", "\\bcatch\\b", "\\bsynchronized\\b", "\\bassert\\b", "->", "::",
       "\\bpackage\\b", "System\\.(?!arraycopy)", "Exact\\b", "\\bObject\\b",
       "\\bMath\\.(?!max|min|abs|floorDiv|floorMod)", "\\bArrays\\.(?!fill|copyOf|copyOfRange)",
-      "\\b(hashCode|toString|equals)\\b", "@"
+      "\\b(hashCode|toString|equals)\\b", "@", "\\bstatic *\\{", "\\b(double|float|String|Random|Thread)\\b", "\\bwhile\\b"
     };
     for (String word : refused) {
       must(!Pattern.compile(word).matcher(bare).find(), "rule 4 or 6: " + word);
@@ -133,5 +147,75 @@ public final class LanguageTest {
       }
       must(end - i < 60, "rule 11: long: " + lines[i]);
     }
+  }
+
+  /** Rule 9: each loop counts to a bound, or goes up the KINDS, whose chain ends above POT. */
+  private static void loops(String bare) {
+    Pattern counts = Pattern.compile("for \\(int (\\w+) = \\w+; \\1 <=? [^;]+; \\1\\+\\+\\) \\{");
+    Pattern climbs = Pattern.compile("for \\(int k = \\w+; k >= 0; k = kindAbove\\(k\\)\\) \\{");
+    for (String line : bare.split("\n")) {
+      boolean isLoop = line.matches(".*\\bfor *\\(.*");
+      boolean hasEnd = counts.matcher(line).find() || climbs.matcher(line).find();
+      must(!isLoop || hasEnd, "rule 9: " + line);
+    }
+  }
+
+  // ---- rule 11: calls that are no recursion go at most eight deep
+
+  private static void callsOpenAtOnce(String bare) {
+    TreeMap<String, TreeSet<String>> calls = callsOfMethods(bare);
+    must(calls.size() > 100, "rule 11: only " + calls.size() + " methods were found");
+    for (String method : calls.keySet()) {
+      int deep = deepest(calls, method, List.of());
+      must(deep <= 8, "rule 11: " + deep + " deep: " + method);
+    }
+  }
+
+  /** By Class.method: those that it calls. A call on an object may be any class's method of that name. */
+  private static TreeMap<String, TreeSet<String>> callsOfMethods(String bare) {
+    TreeMap<String, String> bodies = new TreeMap<>();
+    String owner = "";
+    String method = "";
+    for (String line : bare.split("\n")) {
+      Matcher inside = Pattern.compile("^  private static final class (\\w+) \\{$").matcher(line);
+      Matcher begins = Pattern.compile("^(  |    )[a-z][\\w \\[\\]]* (\\w+)\\([^)]*\\) \\{$").matcher(line);
+      if (inside.find()) {
+        owner = inside.group(1);
+      } else if (begins.find() && !line.matches(" *(if|for|switch|else|return)\\b.*")) {
+        method = owner + "." + begins.group(2);
+        bodies.put(method, "");
+      } else if (bodies.containsKey(method)) {
+        bodies.merge(method, line + "\n", String::concat);
+      }
+    }
+    TreeMap<String, TreeSet<String>> calls = new TreeMap<>();
+    for (String caller : bodies.keySet()) {
+      TreeSet<String> called = new TreeSet<>();
+      Matcher m = Pattern.compile("(\\.?)\\b(\\w+)\\(").matcher(bodies.get(caller));
+      while (m.find()) {
+        String own = caller.substring(0, caller.indexOf('.')) + "." + m.group(2);
+        for (String other : bodies.keySet()) {
+          boolean isNamedSo = other.endsWith("." + m.group(2));
+          boolean isNear = other.equals(own) || other.startsWith(".") && !bodies.containsKey(own);
+          if (isNamedSo && (isNear || m.group(1).equals("."))) {
+            called.add(other);
+          }
+        }
+      }
+      calls.put(caller, called);
+    }
+    return calls;
+  }
+
+  private static int deepest(TreeMap<String, TreeSet<String>> calls, String method, List<String> open) {
+    int most = 0;
+    List<String> now = new ArrayList<>(open);
+    now.add(method);
+    for (String called : calls.get(method)) {
+      if (!now.contains(called)) {
+        most = Math.max(most, deepest(calls, called, now));
+      }
+    }
+    return 1 + most;
   }
 }
