@@ -31,6 +31,7 @@ public final class PotHandles {
   private static final int STUCK = 4;
   private static final int ROOKS = 5;
   private static final int CHIPPED = 6;
+  private static final int KINDS = 7;
 
   private static final int WARMTH = 0;
   private static final int BREAKS = 1;
@@ -54,7 +55,7 @@ public final class PotHandles {
   private final District kept = new District();
   private final Desk desk = new Desk();
   private final Desk keptDesk = new Desk();
-  private final Reader reader = new Reader(desk);
+  private final Reader reader = new Reader();
   private final Voices voices = new Voices();
   private final Sheet[] sheets = new Sheet[SHEETS];
   private final int[] errors = new int[ERRORS + 1];
@@ -203,7 +204,7 @@ public final class PotHandles {
     if (!isWithin(use, 1)) {
       return fail(BEYOND);
     }
-    boolean isText = reader.readTape(use);
+    boolean isText = reader.readTape(desk.tape, desk.taped, use);
     desk.taped = 0;
     if (!isText) {
       return -10 - reader.at;
@@ -630,11 +631,14 @@ public final class PotHandles {
     }
   }
 
+  /** Whether a KIND is the wanted one, or stands under it. */
   private static boolean isUnder(int kind, int wanted) {
-    for (int k = kind; k >= 0; k = kindAbove(k)) {
+    int k = kind;
+    for (int i = 0; i < KINDS && k >= 0; i++) {
       if (k == wanted) {
         return true;
       }
+      k = kindAbove(k);
     }
     return false;
   }
@@ -1017,26 +1021,25 @@ public final class PotHandles {
     private static final int MOST_DIGITS = 4;
 
     final Law law = new Law();
-    private final Desk desk;
+    private final byte[] bytes = new byte[MOST_TAPE];
+    private int many;
     private int use;
     /** The place of the byte that comes next; behind a FAULT, the FAULT. */
     int at;
 
-    Reader(Desk desk) {
-      this.desk = desk;
-    }
-
-    /** Whether THE TAPE is a TEXT of a USE, which law then is. */
-    boolean readTape(int forUse) {
+    /** Whether THE TAPE, of so many bytes, is a TEXT of a USE, which law then is. */
+    boolean readTape(byte[] tape, int taped, int forUse) {
+      many = Math.max(0, Math.min(taped, Math.min(tape.length, MOST_TAPE)));
+      System.arraycopy(tape, 0, bytes, 0, many);
       use = forUse;
       at = 0;
       law.clear();
-      return readLevel(0, 0) && at == desk.taped;
+      return readLevel(0, 0) && at == many;
     }
 
     /** What comes next on THE TAPE; 0, with which no TEXT goes on, at its end. */
     private int next() {
-      return at < desk.taped && at < MOST_TAPE ? desk.tape[at] : 0;
+      return at < many && at < MOST_TAPE ? bytes[at] : 0;
     }
 
     /** Both depths are kept low here: the levels, and how many of ! and ( are open. */
@@ -1155,12 +1158,14 @@ public final class PotHandles {
       if (depth > MOST_CALLED) {
         return 0;
       }
-      for (int k = from; k >= 0; k = kindAbove(k)) {
+      int k = from;
+      for (int i = 0; i < KINDS && k >= 0; i++) {
         int body = bodyOf(k, act);
         if (body != 0) {
           begin(body);
           return sayBody(body, x, depth + 1);
         }
+        k = kindAbove(k);
       }
       return 0;
     }

@@ -37,6 +37,8 @@ public final class LanguageTest {
     String bare = bare(source);
     words(bare);
     loops(bare);
+    classesAndMaking(bare);
+    recursion(bare);
     callsOpenAtOnce(bare);
     System.out.println(wrong + " rules are not kept");
     if (wrong != 0) {
@@ -149,15 +151,57 @@ public final class LanguageTest {
     }
   }
 
-  /** Rule 9: each loop counts to a bound, or goes up the KINDS, whose chain ends above POT. */
+  /** Rule 9: each loop counts to a bound, and nothing in it counts back. */
   private static void loops(String bare) {
-    Pattern counts = Pattern.compile("for \\(int (\\w+) = \\w+; \\1 <=? [^;]+; \\1\\+\\+\\) \\{");
-    Pattern climbs = Pattern.compile("for \\(int k = \\w+; k >= 0; k = kindAbove\\(k\\)\\) \\{");
-    for (String line : bare.split("\n")) {
-      boolean isLoop = line.matches(".*\\bfor *\\(.*");
-      boolean hasEnd = counts.matcher(line).find() || climbs.matcher(line).find();
-      must(!isLoop || hasEnd, "rule 9: " + line);
+    Pattern counts = Pattern.compile("^( *)for \\(int (\\w+) = \\w+; \\2 <=? [^;|]+; \\2\\+\\+\\) \\{$");
+    String[] lines = bare.split("\n");
+    for (int i = 0; i < lines.length; i++) {
+      Matcher m = counts.matcher(lines[i]);
+      boolean isLoop = lines[i].matches(".*\\b(for|do)\\b.*");
+      boolean hasEnd = m.find();
+      must(!isLoop || hasEnd, "rule 9: " + lines[i]);
+      for (int k = i + 1; isLoop && hasEnd && k < lines.length && !lines[k].equals(m.group(1) + "}"); k++) {
+        must(!lines[k].matches(".*(?<![.\\w])" + m.group(2) + " *(--|[-+*/%]?=[^=]).*"), "rule 9: " + lines[k]);
+      }
     }
+  }
+
+  /** Rule 2: classes inside are static and bear a name; rule 12: what is made is handed nothing. */
+  private static void classesAndMaking(String bare) {
+    for (String line : bare.split("\n")) {
+      boolean isClass = line.matches(".*\\b(class|interface|enum|record)\\b.*");
+      boolean isNamed = line.matches("(public final|  private static final) class \\w+ \\{");
+      must(!isClass || isNamed, "rule 2: " + line);
+      must(!line.matches(".*\\bnew \\w+ *\\((?!\\)).*"), "rule 12: handed on: " + line);
+      must(!line.matches(".*\\bthis\\b(?!\\.).*"), "rule 12: handed on: " + line);
+    }
+  }
+
+  /** Rule 8: what calls itself is known here, and each of it carries a depth that is asked. */
+  private static void recursion(String bare) {
+    TreeMap<String, TreeSet<String>> calls = new TreeMap<>();
+    callsOfMethods(bare).forEach((caller, called) -> {
+      String owner = caller.substring(0, caller.indexOf('.') + 1);
+      TreeSet<String> own = new TreeSet<>(called);
+      own.removeIf(other -> !other.startsWith(owner) || other.endsWith(".copy"));
+      calls.put(caller, own);
+    });
+    TreeSet<String> again = new TreeSet<>();
+    for (String method : calls.keySet()) {
+      TreeSet<String> reached = new TreeSet<>(calls.get(method));
+      for (int i = 0; i < calls.size(); i++) {
+        for (String one : new TreeSet<>(reached)) {
+          reached.addAll(calls.get(one));
+        }
+      }
+      if (reached.contains(method)) {
+        again.add(method);
+      }
+    }
+    TreeSet<String> known = new TreeSet<>(List.of(
+        "Reader.readLast", "Reader.readLevel", "Voices.say", "Voices.sayAbove", "Voices.sayBody"));
+    must(again.equals(known), "rule 8: these call themselves: " + again);
+    must(bare.contains("open >= MOST_OPEN") && bare.contains("depth > MOST_CALLED"), "rule 8: the guards");
   }
 
   // ---- rule 11: calls that are no recursion go at most eight deep
