@@ -1,3 +1,4 @@
+import java.io.DataInputStream;
 import java.io.IOException;
 import java.lang.reflect.Constructor;
 import java.lang.reflect.Field;
@@ -38,6 +39,10 @@ public final class LanguageTest {
     words(bare);
     loops(bare);
     classesAndMaking(bare);
+    libraryCalls(PotHandles.class);
+    for (Class<?> inside : PotHandles.class.getDeclaredClasses()) {
+      libraryCalls(inside);
+    }
     recursion(bare);
     callsOpenAtOnce(bare);
     System.out.println(wrong + " rules are not kept");
@@ -78,6 +83,10 @@ public final class LanguageTest {
       names.add(m.getName());
     }
     fieldsOf(main, true);
+    for (Method m : main.getDeclaredMethods()) {
+      must(!Modifier.isPrivate(m.getModifiers()) || !names.contains(m.getName()), "rule 1: the name of " + m);
+      must(m.getParameterCount() <= 7, "rule 11: " + m);
+    }
     for (Class<?> c : inside) {
       must(Modifier.isStatic(c.getModifiers()) && !Modifier.isPublic(c.getModifiers()), "rule 2: " + c);
       fieldsOf(c, false);
@@ -119,7 +128,7 @@ public final class LanguageTest {
       "\\bthrow\\b", "\\bthrows\\b", "\\btry\\b", "\\bcatch\\b", "\\bsynchronized\\b", "\\bassert\\b", "->", "::",
       "\\bpackage\\b", "System\\.(?!arraycopy)", "Exact\\b", "\\bObject\\b",
       "\\bMath\\.(?!max|min|abs|floorDiv|floorMod)", "\\bArrays\\.(?!fill|copyOf|copyOfRange)",
-      "\\b(hashCode|toString|equals)\\b", "@", "\\bstatic *\\{", "\\b(double|float|String|Random|Thread)\\b", "\\bwhile\\b"
+      "\\b(hashCode|toString|equals)\\b", "\\bjava\\.(?!util\\.\\w+;)", "@", "\\bstatic *\\{", "\\b(double|float|String|Random|Thread)\\b", "\\bwhile\\b"
     };
     for (String word : refused) {
       must(!Pattern.compile(word).matcher(bare).find(), "rule 4 or 6: " + word);
@@ -174,6 +183,43 @@ public final class LanguageTest {
       must(!isClass || isNamed, "rule 2: " + line);
       must(!line.matches(".*\\bnew \\w+ *\\((?!\\)).*"), "rule 12: handed on: " + line);
       must(!line.matches(".*\\bthis\\b(?!\\.).*"), "rule 12: handed on: " + line);
+    }
+  }
+
+  /** Rules 4 and 13, in what javac made of the source: which methods of others it calls. */
+  private static void libraryCalls(Class<?> c) throws IOException {
+    TreeSet<String> known = new TreeSet<>(List.of("java/lang/Object.<init>", "java/lang/Math.max", "java/lang/Math.min",
+        "java/lang/Integer.bitCount", "java/lang/System.arraycopy", "java/util/Arrays.fill"));
+    try (DataInputStream in = new DataInputStream(c.getResourceAsStream(c.getName() + ".class"))) {
+      in.skipBytes(8);
+      int many = in.readUnsignedShort();
+      Object[] constants = new Object[many];
+      int[] kinds = new int[many];
+      for (int i = 1; i < many; i++) {
+        kinds[i] = in.readUnsignedByte();
+        constants[i] = constant(in, kinds[i]);
+        i += kinds[i] == 5 || kinds[i] == 6 ? 1 : 0;
+      }
+      for (int i = 1; i < many; i++) {
+        must(kinds[i] < 15 || kinds[i] > 18, "rules 2 and 10: made at run time, in " + c);
+        if (kinds[i] >= 9 && kinds[i] <= 11) {
+          int both = (Integer) constants[i];
+          String owner = (String) constants[(Integer) constants[both >>> 16] >>> 16];
+          String name = (String) constants[(Integer) constants[both & 0xFFFF] >>> 16];
+          must(owner.startsWith("PotHandles") || known.contains(owner + "." + name), "rule 4: " + owner + "." + name);
+        }
+      }
+    }
+  }
+
+  /** A text, or what it points to: one number in the upper half, or two. */
+  private static Object constant(DataInputStream in, int kind) throws IOException {
+    switch (kind) {
+      case 1: return in.readUTF();
+      case 7: case 8: case 16: case 19: case 20: return in.readUnsignedShort() << 16;
+      case 5: case 6: return in.readLong();
+      case 15: return in.readUnsignedByte() << 16 | in.readUnsignedShort();
+      default: return in.readInt();
     }
   }
 
