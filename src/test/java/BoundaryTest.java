@@ -444,6 +444,10 @@ public final class BoundaryTest {
     due("12 forty-nine bytes", read(x, 1, "u" + "/u".repeat(24)), 1);
     due("13 all is worked out", x.law(1, 1, 0, 0), 1);
     due("13 all is worked out", x.law(1, 0, 0, 0), 0);
+    due("12 fifty bytes, and each of them works", read(x, 0, "!u|".repeat(16) + "!c"), 1);
+    due("13 the last | counts", x.law(0, 0, 1, 0), 1);
+    due("13 what is behind it counts", x.law(0, 1, 0, 0), 1);
+    due("13 neither", x.law(0, 1, 1, 0), 0);
   }
 
   /** A NUMBER has 1 to 4 digits. */
